@@ -415,10 +415,12 @@ public final class BrownoutCore {
         }
 
         int fetchWord(int address) {
-            if (inFram(address)) {
-                section.noteLoad(framWord(address));
+            if (!inFram(address)) {
+                return inSram(address) ? sram[sramWord(address)] : 0;
             }
-            return peek(address);
+            int word = framWord(address);
+            section.noteLoad(word);
+            return section.held.valueOf(word, lasting.framWords[word]);
         }
 
         int read(int address, boolean bytes) {
@@ -430,13 +432,14 @@ public final class BrownoutCore {
         }
 
         void write(int address, int value, boolean bytes) {
+            int whole = bytes ? withByte(peek(address), address, value) : value;
             if (inSram(address)) {
-                sram[sramWord(address)] = bytes ? withByte(address, value) : value;
-            } else if (inFram(address) && bytes) {
-                section.noteLoad(framWord(address));
-                storeFram(framWord(address), withByte(address, value));
+                sram[sramWord(address)] = whole;
             } else if (inFram(address)) {
-                storeFram(framWord(address), value);
+                if (bytes) {
+                    section.noteLoad(framWord(address));
+                }
+                storeFram(framWord(address), whole);
             } else {
                 storeDevice(address & EVEN, value);
             }
@@ -444,14 +447,11 @@ public final class BrownoutCore {
 
         /** What a load would give, without its being noted. */
         int peek(int address) {
-            if (inSram(address)) {
-                return sram[sramWord(address)];
+            if (!inFram(address)) {
+                return inSram(address) ? sram[sramWord(address)] : 0;
             }
-            if (inFram(address)) {
-                int word = framWord(address);
-                return section.held.valueOf(word, lasting.framWords[word]);
-            }
-            return 0;
+            int word = framWord(address);
+            return section.held.valueOf(word, lasting.framWords[word]);
         }
 
         private int loadSensor() {
@@ -490,9 +490,7 @@ public final class BrownoutCore {
             }
         }
 
-        /** The word at the address, with one of its bytes replaced. */
-        private int withByte(int address, int value) {
-            int word = peek(address);
+        private static int withByte(int word, int address, int value) {
             return (address & 1) == 1 ? word & 255 | value << 8 : word & 65280 | value;
         }
 
@@ -878,7 +876,6 @@ public final class BrownoutCore {
             keepVolatile();
             kept.held.copyFrom(section.held);
             kept.instructions += section.instructions;
-            section.instructions = 0;
             kept.recordsSent = 0;
             kept.halted = halting;
             kept.finished = false;

@@ -100,6 +100,7 @@ public final class InstructionTest {
         {Asm.RRA | B, 0x1281, 0, 0xc0, 5},
         {Asm.RRA | B, 0x8142, ALL, 0x21, 0},
         {Asm.SWPB, 0x1234, ALL, 0x3412, ALL},
+        {Asm.SWPB, 0xfe01, 0, 0x01fe, 0},
         {Asm.SWPB, 0x0000, 0, 0, 0},
         {Asm.SWPB | B, 0x1234, 0, 0x3412, 0},
         {Asm.SXT, 0x1280, ALL, 0xff80, 5},
@@ -127,6 +128,7 @@ public final class InstructionTest {
         bytesInMemory();
         specialRegisters();
         resultsToR2();
+        flagsThatStay();
         pushAndCall();
         pushOfSp();
         pushOfAByte();
@@ -472,6 +474,20 @@ public final class InstructionTest {
         Due.same("BIS #-1, SR", bis.register(2), 263);
     }
 
+    /** MOV, BIC, BIS, SWPB, PUSH and CALL leave the flags of the instruction before them. */
+    private static void flagsThatStay() {
+        int[] words = {
+            Asm.two(Asm.MOV, 6, 0, 7, 0), Asm.two(Asm.BIC, 6, 0, 7, 0), Asm.two(Asm.BIS, 6, 0, 7, 0),
+            Asm.one(Asm.SWPB, 6, 0), Asm.one(Asm.PUSH, 6, 0), Asm.one(Asm.CALL, 6, 0), Asm.one(7, 6, 0)};
+        for (int word : words) {
+            BrownoutCore x = Asm.ran(3,
+                    Asm.two(Asm.SUB, 3, 1, 6, 0),
+                    Asm.constantTo(Asm.MOV, 2), 3,
+                    word);
+            Due.same("flags after " + word, x.register(2), 3);
+        }
+    }
+
     private static void pushAndCall() {
         BrownoutCore x = Asm.ran(4,
                 Asm.constantTo(Asm.MOV, 1), 544,
@@ -671,6 +687,7 @@ public final class InstructionTest {
             Due.same("writes", x.writes(), 0);
             Due.same("first word of SRAM", x.memory(512), 0);
             Due.same("last word of SRAM", x.memory(542), 0);
+            Due.same("memory of " + address, x.memory(address), 0);
             Due.same("last word of FRAM", x.fram(127), 0);
         }
     }
